@@ -710,6 +710,14 @@ public final class EvenWheel {
             return persons.at(p);
         }
 
+        int personsOfAll(Row some) {
+            int sum = 0;
+            for (int i = 0; i < some.count(); i++) {
+                sum += persons.at(some.at(i));
+            }
+            return sum;
+        }
+
         int weightOf(int p) {
             return weights.at(p);
         }
@@ -815,7 +823,7 @@ public final class EvenWheel {
         }
 
         int personsIn(int c) {
-            return personsOf(insideOf(c));
+            return parties.personsOfAll(insideOf(c));
         }
 
         int personsUp() {
@@ -827,15 +835,7 @@ public final class EvenWheel {
         }
 
         int personsWaiting() {
-            return personsOf(line);
-        }
-
-        private int personsOf(Row row) {
-            int sum = 0;
-            for (int i = 0; i < row.count(); i++) {
-                sum += parties.personsOf(row.at(i));
-            }
-            return sum;
+            return parties.personsOfAll(line);
         }
 
         boolean isAlone(int c) {

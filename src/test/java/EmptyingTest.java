@@ -10,6 +10,7 @@ public final class EmptyingTest {
         orderByCost();
         orderBySteps();
         orderByNumbers();
+        orderOfMany();
         orderAtMostSix();
         orderThirtyTimes();
         orderThirtyTimesEvenOfNone();
@@ -20,6 +21,8 @@ public final class EmptyingTest {
         rollRestsAheadOfASign();
         letOut();
         letOutAgain();
+        letOutAtOnce();
+        rollAtLeanOfOne();
         CHECK.end();
     }
 
@@ -107,11 +110,45 @@ public final class EmptyingTest {
     }
 
     private static void orderByNumbers() {
-        EvenWheel x = laden(6, 0, 40, 0, 0, 40, 0);
-        is("24 order(0)", x.order(0), 3480);
-        is("24 order(1)", x.order(1), 5);
-        is("25 ordered(0)", x.ordered(0), 4);
+        EvenWheel x = laden(6, 40, 60, 0, 0, 50, 0);
+        is("26 cost(0, 1, 4)", x.cost(30 + 4), 4350);
+        is("26 cost(1, 0, 4): as like, and 8 steps too", x.cost(900 + 4), 4350);
+        is("24 order(0)", x.order(0), 4350);
+        is("24 order(1)", x.order(1), 8);
+        is("25 ordered(0): the least first one", x.ordered(0), 0);
         is("25 ordered(1)", x.ordered(1), 1);
+        is("25 ordered(2)", x.ordered(2), 4);
+        EvenWheel y = laden(6, 50, 60, 0, 0, 10, 10);
+        is("26 cost(0, 1, 5, 4)", y.cost((30 + 5) * 30 + 4), 4350);
+        is("26 cost(0, 5, 1, 4): as like, and 8 steps too", y.cost((150 + 1) * 30 + 4), 4350);
+        is("24 order(0)", y.order(0), 4350);
+        is("24 order(1)", y.order(1), 8);
+        is("25 ordered(0)", y.ordered(0), 0);
+        is("25 ordered(1): the least second one", y.ordered(1), 1);
+        is("25 ordered(2)", y.ordered(2), 5);
+        is("25 ordered(3)", y.ordered(3), 4);
+        is("25 ordered(4)", y.ordered(4), -1);
+    }
+
+    /** Best orders that were found by walking all of them with PlainWheel. */
+    private static void orderOfMany() {
+        ordersAre(laden(6, 10, 60, 60, 50, 10, 40), 6090, 8, 0, 3, 2, 1, 5, 4);
+        ordersAre(laden(6, 0, 30, 60, 10, 20, 30), 3480, 11, 2, 5, 4, 3, 1);
+        ordersAre(laden(6, 10, 30, 20, 20, 0, 60), 3480, 10, 0, 1, 5, 3, 2);
+        ordersAre(laden(6, 50, 50, 30, 0, 60, 20), 4350, 11, 0, 2, 5, 4, 1);
+        ordersAre(laden(6, 60, 0, 30, 20, 10, 0), 3480, 9, 2, 0, 4, 3);
+    }
+
+    private static void ordersAre(EvenWheel x, int cost, int steps, int... cabins) {
+        is("24 order(0)", x.order(0), cost);
+        is("24 order(1)", x.order(1), steps);
+        int order = 0;
+        for (int i = 0; i < cabins.length; i++) {
+            is("25 ordered(" + i + ")", x.ordered(i), cabins[i]);
+            order = order * 30 + cabins[i];
+        }
+        is("25 ordered() behind the last", x.ordered(cabins.length), -1);
+        is("26 cost(" + order + ")", x.cost(order), cost);
     }
 
     private static void orderAtMostSix() {
@@ -176,7 +213,7 @@ public final class EmptyingTest {
         is("26 nothing is done", x.load(1), 100);
         EvenWheel y = laden(6, 20, 30);
         is("26 cost(0, 1)", y.cost(1), 30 * 87);
-        is("26 cost(1, 0)", y.cost(30), 50 * 87 > 0 ? 20 * 87 + 30 * 87 : 0);
+        is("26 cost(1, 0)", y.cost(30), 50 * 87);
     }
 
     private static void costOfNone() {
@@ -197,15 +234,13 @@ public final class EmptyingTest {
             x.step();
         }
         x.stop(24);
-        int order = 29;
-        for (int c = 28; c >= 26; c--) {
-            order = order * 30 + c;
+        int[] order = {29, 28, 27, 26, 0, 25};
+        int named = 0;
+        for (int c : order) {
+            named = named * 30 + c;
         }
-        order = order * 30 + 25 == 25 ? 0 : order * 30;
-        // 29, 28, 27, 26, 0, 25
-        int named = order * 30 + 25;
         CHECK.that("26 nearly the greatest that has six figures", named > 700000000);
-        is("26 cost of six", x.cost(named), costByHand(new int[] {29, 28, 27, 26, 0, 25}));
+        is("26 cost of six", x.cost(named), costByHand(order));
         is("26 above all orders", x.cost(729000000), -102);
     }
 
@@ -315,5 +350,34 @@ public final class EmptyingTest {
         is("28 all three parties", x.letOut(), 6);
         is("28 told(0)", x.told(0), 0);
         is("28 party(1, 3)", x.party(1, 3), 101);
+    }
+
+    private static void letOutAtOnce() {
+        EvenWheel x = laden(12, 0, 0, 30);
+        x.stop(5);
+        is("28 letOut()", x.letOut(), 1);
+        is("28 told(0)", x.told(0), 10);
+        is("28 told(4)", x.told(4), 0);
+        is("29 stranded()", x.stranded(), 0);
+    }
+
+    /** 23 times 87 is 40 times 50, and 1: LEAN at turn 4 is 1, at turn 10 it is -1. */
+    private static void rollAtLeanOfOne() {
+        EvenWheel x = laden(12, 23, 0, 0, 0, 0, 0, 0, 40);
+        is("27 lean(4)", x.lean(4), 1);
+        is("27 lean(3)", x.lean(3), 23 * 100 - 40 * 87);
+        is("27 lean(5)", x.lean(5), 23 * 50);
+        x.stop(4);
+        is("27 it rests ahead of the other sign", x.roll(), 0);
+        x.stop(1);
+        is("27 back to 1", x.roll(), -1);
+        x.stop(6);
+        is("27 told(0)", x.told(0), 10);
+        is("27 onward from -1, to 3: at 4 it is 1", x.roll(), 5);
+        is("27 told(0)", x.told(0), 3);
+        is("27 it rests", x.roll(), 0);
+        x.stop(6);
+        is("27 back from 9 to 4", x.roll(), -5);
+        is("27 told(0)", x.told(0), 4);
     }
 }

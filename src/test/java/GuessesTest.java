@@ -136,6 +136,10 @@ public final class GuessesTest {
         x.guess(1, 0, 260);
         fits(x, 1, 250, 260);
         fits(x, 2, 140, 150);
+        EvenWheel y = twoOf(0, 0);
+        // at turn 1 cabin 0 has arm 87
+        y.read(1, 87 * 44, 87 * 3);
+        fits(y, 0, 41, 47);
         x.guess(1, 0, 249);
         is("37 none of cabin 1", x.fit(2, 0), -1);
         is("38 breaks()", x.breaks(), 0);
@@ -190,6 +194,10 @@ public final class GuessesTest {
         x.read(0, 87 * 18 + 40, 0);
         fits(x, 1, 9, 10);
         fits(x, 2, 9, 9);
+        x.forget();
+        x.read(0, 87 * 2 + 40, 0);
+        fits(x, 1, 0, 2);
+        fits(x, 2, 1, 2);
     }
 
     private static void fitReadingByReading() {

@@ -72,8 +72,8 @@ public final class LineTest {
             is("16 tire(0)", x.tire(0), p - 30);
             is("16 come " + p, x.come(1, 50, 50, 50, 0), p);
         }
-        while (x.tire(0) != -101) {
-            CHECK.that("16 the line ends", x.told(7) == 200);
+        for (int p = 170; p < 200; p++) {
+            is("16 tire(0)", x.tire(0), p);
         }
         is("16 nobody waits", x.told(5), 0);
         is("16 200 came", x.come(1, 50, 50, 50, 0), -104);

@@ -20,6 +20,7 @@ public final class WheelTest {
         inside();
         stepByBrake();
         stepByDrive();
+        leanOfOne();
         warmthFalls();
         whyTheFirst();
         whyAtTheBounds();
@@ -81,8 +82,9 @@ public final class WheelTest {
         is("2 build(MAX)", x.build(HIGH), -102);
         is("2 a refused build changes nothing", x.cabin(29, 3), 29);
         board(x, 100);
-        x.come(2, 5, 5, 5, 0);
-        x.stop(3);
+        x.come(2, 5, 5, 5, 2);
+        x.stop(20);
+        is("2 told(1) ahead", x.told(1), 21 + 41 + 59 + 74 + 87);
         x.note(0, 3);
         x.guess(1, 3, 4);
         x.read(1, 3, 4);
@@ -100,7 +102,11 @@ public final class WheelTest {
         is("2 fit(1, 1)", x.fit(1, 1), 900);
         is("2 tear()", x.tear(), 0);
         is("2 forget()", x.forget(), 0);
-        is("2 numbered from 0", x.come(1, 50, 50, 50, 0), 0);
+        is("2 numbered from 0", x.come(1, 50, 60, 70, 0), 0);
+        int[] due = {1, 50, 0, 100, 0, 0};
+        for (int what = 0; what <= 5; what++) {
+            is("2 party(0, " + what + ") anew", x.party(0, what), due[what]);
+        }
     }
 
     private static void buildKeepsRules() {
@@ -233,6 +239,12 @@ public final class WheelTest {
         board(x, 10);
         is("9 worst() is 1, as like as 2, 4, 5", x.worst(), 1);
         is("8 greatest()", x.greatest(), 870);
+        x.build(6);
+        x.stop(3);
+        board(x, 10);
+        is("9 worst() is 1 where LEAN is below 0", x.worst(), 1);
+        is("7 lean(1)", x.lean(1), -870);
+        is("7 lean(4)", x.lean(4), 870);
     }
 
     private static void load() {
@@ -341,6 +353,33 @@ public final class WheelTest {
         x.drive(true);
         is("14 why()", x.why(), 0);
         is("13 step()", x.step(), 2);
+    }
+
+    /** 23 times 87 is 40 times 50, and 1. */
+    private static void leanOfOne() {
+        EvenWheel x = new EvenWheel();
+        x.build(12);
+        x.rule(2, 3);
+        board(x, 23);
+        x.stop(5);
+        board(x, 40);
+        is("7 lean(2)", x.lean(2), 23 * 87 - 40 * 100);
+        is("7 lean(4): 23 at 4, 40 at 11", x.lean(4), 1);
+        is("7 lean(10)", x.lean(10), -1);
+        x.stop(10);
+        is("13 told(0)", x.told(0), 3);
+        int warm = x.told(1);
+        x.drive(false);
+        is("14 L of 1 is to be driven", x.why(), 3);
+        x.drive(true);
+        is("13 step()", x.step(), 4);
+        is("13 L of 1 cools", x.told(1), warm - 3);
+        x.stop(5);
+        warm = x.told(1);
+        x.drive(false);
+        is("14 L of -1 is held back", x.why(), 0);
+        is("13 step()", x.step(), 10);
+        is("13 L of -1 warms by 0 and does not cool", x.told(1), warm);
     }
 
     private static void warmthFalls() {

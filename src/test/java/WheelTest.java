@@ -9,6 +9,7 @@ public final class WheelTest {
         newObject();
         constants();
         build();
+        buildForgetsParties();
         buildKeepsRules();
         arm();
         told();
@@ -103,6 +104,24 @@ public final class WheelTest {
         is("2 tear()", x.tear(), 0);
         is("2 forget()", x.forget(), 0);
         is("2 numbered from 0", x.come(1, 50, 60, 70, 0), 0);
+    }
+
+    private static void buildForgetsParties() {
+        EvenWheel x = new EvenWheel();
+        x.rule(0, 8700);
+        x.come(2, 150, 60, 70, 3);
+        x.come(1, 50, 60, 70, 0);
+        is("2 next() passes over 0", x.next(), 1);
+        x.rule(0, 60000);
+        x.step();
+        is("2 next()", x.next(), 0);
+        x.stop(3);
+        int[] ahead = {2, 210, 3, 5, 1, 1};
+        for (int what = 0; what <= 5; what++) {
+            is("2 party(0, " + what + ") ahead", x.party(0, what), ahead[what]);
+        }
+        x.build(6);
+        x.come(1, 50, 60, 70, 0);
         int[] due = {1, 50, 0, 100, 0, 0};
         for (int what = 0; what <= 5; what++) {
             is("2 party(0, " + what + ") anew", x.party(0, what), due[what]);

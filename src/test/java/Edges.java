@@ -44,6 +44,11 @@ final class Edges {
         run("Terms", sentence, edge, test);
     }
 
+    /** A test of a sentence that stands under 'What it is'. */
+    void whatItIs(String sentence, String edge, Consumer<Tried> test) {
+        run("What it is", sentence, edge, test);
+    }
+
     private void run(String heading, String sentence, String edge, Consumer<Tried> test) {
         String name = heading + ", '" + sentence + "' (" + edge + ")";
         check.that(name + ": the name of another test", names.add(name));

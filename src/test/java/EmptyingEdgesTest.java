@@ -11,6 +11,7 @@ public final class EmptyingEdgesTest {
         costOfTurns(edges);
         bestOrder(edges);
         bestOfLikeOnes(edges);
+        bestOfAll(edges);
         rolling(edges);
         rollingRests(edges);
         lettingOut(edges);
@@ -20,6 +21,7 @@ public final class EmptyingEdgesTest {
         cost(edges);
         costRefused(edges);
         roll(edges);
+        rollIsNoStop(edges);
         letOut(edges);
         stranded(edges);
         edges.end(24, 29);
@@ -185,6 +187,34 @@ public final class EmptyingEdgesTest {
         });
     }
 
+    /** Loads of six cabins, and the best of their 720 orders, found by a program that walked all of them. */
+    private static void bestOfAll(Edges edges) {
+        ordersAre(edges, "the one with the least numbers of those that were found", new int[] {10, 40, 20, 10, 10, 30},
+            1740, 16, 0, 1, 3, 5, 4, 2);
+        ordersAre(edges, "the last of all 720", new int[] {10, 10, 10, 20, 20, 10}, 1740, 6, 5, 4, 3, 2, 1, 0);
+        ordersAre(edges, "nearly the last, 12 steps", new int[] {40, 30, 10, 70, 20, 60}, 3480, 12, 5, 4, 1, 3, 2, 0);
+        ordersAre(edges, "18 steps", new int[] {30, 30, 10, 50, 20, 60}, 2610, 18, 5, 2, 4, 1, 3, 0);
+        ordersAre(edges, "20 steps", new int[] {20, 60, 30, 70, 40, 40}, 3480, 20, 3, 0, 2, 5, 1, 4);
+        ordersAre(edges, "0 first, and then back and forth", new int[] {30, 20, 10, 10, 20, 20}, 870, 16, 0, 4, 1, 3, 5, 2);
+        ordersAre(edges, "2 first", new int[] {10, 20, 10, 20, 10, 10}, 870, 18, 2, 4, 1, 5, 3, 0);
+        ordersAre(edges, "4 first", new int[] {30, 10, 10, 30, 10, 20}, 1740, 13, 4, 0, 3, 2, 1, 5);
+    }
+
+    private static void ordersAre(Edges edges, String edge, int[] loads, int cost, int steps, int... cabins) {
+        edges.terms("THE BEST ORDER: of least COST, of like ones of fewest STEPS together", "of six cabins: " + edge, w -> {
+            w.lade(6, loads);
+            w.is(cost, "order", 0);
+            w.is(steps, "order", 1);
+            int order = 0;
+            for (int i = 0; i < 6; i++) {
+                w.is(cabins[i], "ordered", i);
+                order = order * 30 + cabins[i];
+            }
+            w.is(-1, "ordered", 6);
+            w.is(cost, "cost", order);
+        });
+    }
+
     private static void rolling(Edges edges) {
         edges.terms("L 0: it RESTS", "nobody up, one at the door, one at the top, two that are even", w -> {
             w.is(0, "roll");
@@ -335,6 +365,16 @@ public final class EmptyingEdgesTest {
             w.is(3, "letOut");
             w.is(0, "told", 4);
             w.is(10, "told", 0);
+        });
+        edges.terms(sentence, "again: by the leans without who got off, at TURN 0 too", w -> {
+            // at turn 2 cabin 10 gets off; with it the lean at turn 0 were below 0
+            w.lade(12, 0, 10, 0, 0, 0, 0, 0, 0, 0, 0, 20);
+            w.steps(2);
+            w.is(-1240, "lean", 0);
+            w.is(-130, "lean", 1);
+            w.is(0, "stranded");
+            w.is(2, "letOut");
+            w.is(11, "told", 0);
         });
         edges.terms(sentence, "again, and then it ends with one at the top", w -> {
             w.seat(1, 50);
@@ -609,6 +649,19 @@ public final class EmptyingEdgesTest {
         });
     }
 
+    private static void rollIsNoStop(Edges edges) {
+        edges.promise(27, "It rolls until it RESTS", "it is no STOP: who is at the top has not SEEN", w -> {
+            w.seat(1, 10);
+            w.is(1, "step");
+            w.is(2, "step");
+            w.is(3, "step");
+            w.is(0, "roll");
+            w.is(0, "letOut");
+            w.is(1, "stranded");
+            w.is(0, "party", 0, 4);
+        });
+    }
+
     private static void letOut(Edges edges) {
         edges.promise(28, "LETTING OUT: PERSONS who got off", "who waits is none of them", w -> {
             w.ask("come", 6, 10, 10, 10, 0);
@@ -643,6 +696,9 @@ public final class EmptyingEdgesTest {
             w.is(0, "cabin", 1, 1);
             w.is(0, "load", 1);
             w.is(0, "greatest");
+            for (int p = 0; p < 6; p++) {
+                w.is(101, "party", p, 3);
+            }
         });
     }
 

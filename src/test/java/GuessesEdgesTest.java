@@ -413,6 +413,18 @@ public final class GuessesEdgesTest {
             w.is(-1, "breaks");
             fits(w, 1, 10, 20);
         });
+        edges.promise(36, "No READINGS", "nothing is left of those that were: others are taken in their places", w -> {
+            only(w, 1);
+            for (int i = 1; i <= 12; i++) {
+                w.is(i, "read", 5, 2000000, 100000);
+            }
+            w.is(12, "forget");
+            for (int i = 1; i <= 12; i++) {
+                w.is(i, "read", 0, 8700, 87 * (13 - i));
+                fits(w, 1, 100 - 13 + i, 100 + 13 - i);
+            }
+            w.refuses(-104, "read", 0, 8700, 0);
+        });
     }
 
     private static void fit(Edges edges) {
@@ -515,6 +527,15 @@ public final class GuessesEdgesTest {
                 w.is(1, "guess", 0, 0, 899);
                 w.is(5, "agree");
             });
+        edges.promise(39, "within what is NARROWED", "within the GUESS, but not within what is NARROWED by a READING", w -> {
+            w.seat(1, 100);
+            only(w, 0);
+            w.is(1, "read", 1, 99 * 87, 0);
+            w.is(99, "fit", 0, 1);
+            w.is(5, "agree");
+            w.is(1, "forget");
+            w.is(6, "agree");
+        });
         edges.promise(39, "NONE: nothing is left", "also where all would be within the GUESSES", w -> {
             w.is(6, "agree");
             w.is(1, "read", 0, 2000000, 0);

@@ -7,6 +7,8 @@ public final class HardArgumentsTest {
     private static final Check CHECK = new Check("HardArgumentsTest");
     private static final int[] HARD = {Integer.MIN_VALUE, -1, 0, 1, 5, 6, 30, 901, Integer.MAX_VALUE};
     private static final int STATES = 7;
+    // with what brings a wheel into its state, under the 512 calls that it is used for
+    private static final int WAYS_OF_ONE_WHEEL = 100;
 
     public static void main(String[] args) throws IllegalAccessException {
         for (int state = 0; state < STATES; state++) {
@@ -27,6 +29,9 @@ public final class HardArgumentsTest {
         }
         EvenWheel x = inState(state);
         for (int way = 0; way < ways; way++) {
+            if (way % WAYS_OF_ONE_WHEEL == 0 && way > 0) {
+                x = inState(state);
+            }
             Object[] arguments = new Object[types.length];
             int rest = way;
             for (int i = 0; i < types.length; i++) {

@@ -671,16 +671,37 @@ public final class LineEdgesTest {
             w.is(1, "leave", 0);
             w.is(1, "party", 0, 4);
         });
-        edges.promise(23, "5 how often it was passed over", "0, once, and it stays so, when it is gone", w -> {
-            w.seat(5, 10);
-            w.ask("come", 2, 10, 10, 10, 0);
-            waiting(w, 1);
-            w.is(0, "party", 1, 5);
-            w.is(2, "next");
-            w.is(1, "party", 1, 5);
+        edges.promise(23, "5 how often it was passed over", "0, once, and it stays so, when it goes away", w -> {
+            passedOnce(w);
             w.is(1, "tire", 0);
             w.is(1, "party", 1, 5);
         });
+        edges.promise(23, "5 how often it was passed over", "it stays so, when it boards, and when it gets off", w -> {
+            passedOnce(w);
+            w.steps(1);
+            w.is(1, "next");
+            w.is(1, "party", 1, 5);
+            w.is(2, "leave", 1);
+            w.is(1, "party", 1, 5);
+        });
+        edges.promise(23, "5 how often it was passed over", "it stays so, when it is let out", w -> {
+            passedOnce(w);
+            w.steps(1);
+            w.is(1, "next");
+            w.ask("letOut");
+            w.is(101, "party", 1, 3);
+            w.is(1, "party", 1, 5);
+        });
+    }
+
+    /** Two who wait for room, and one behind them who had it. */
+    private static void passedOnce(Tried w) {
+        w.seat(5, 10);
+        w.ask("come", 2, 10, 10, 10, 0);
+        waiting(w, 1);
+        w.is(0, "party", 1, 5);
+        w.is(2, "next");
+        w.is(1, "party", 1, 5);
     }
 
     private static void partyIsWhere(Edges edges) {
@@ -698,10 +719,13 @@ public final class LineEdgesTest {
             w.is(2, "tire", 0);
             w.is(101, "party", 2, 3);
         });
-        edges.promise(23, "its CABIN; 100 it waits, 101 it is gone", "let out", w -> {
-            w.seat(1, 10);
-            w.is(1, "letOut");
-            w.is(101, "party", 0, 3);
+        edges.promise(23, "its CABIN; 100 it waits, 101 it is gone", "let out: all six of a cabin, not those who wait", w -> {
+            waiting(w, 8);
+            w.is(6, "fill");
+            w.is(6, "letOut");
+            for (int p = 0; p < 8; p++) {
+                w.is(p < 6 ? 101 : 100, "party", p, 3);
+            }
         });
         edges.promise(23, "its CABIN; 100 it waits, 101 it is gone", "its cabin stays the same as the wheel goes round", w -> {
             w.seat(1, 10);

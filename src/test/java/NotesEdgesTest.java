@@ -292,5 +292,21 @@ public final class NotesEdgesTest {
             w.is(37, "begins");
             ups(w, 36, 36, 36);
         });
+        edges.promise(33, "No NOTES", "nothing is left of those that were: others are written in their places", w -> {
+            for (int i = 1; i <= 40; i++) {
+                w.is(i, "note", 1, 36);
+            }
+            w.is(40, "tear");
+            w.is(1, "note", 0, 3);
+            ups(w, 0, 3, 3);
+            w.is(2, "note", 2, 0);
+            ups(w, 0, 0, 36);
+            w.is(3, "note", 1, 1);
+            ups(w, 0, 0, 35);
+            for (int i = 4; i <= 40; i++) {
+                w.is(i, "note", 1, 0);
+            }
+            w.refuses(-104, "note", 1, 0);
+        });
     }
 }

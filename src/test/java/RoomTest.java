@@ -14,15 +14,18 @@ public final class RoomTest {
             return;
         }
         ThreadMXBean machine = (ThreadMXBean) ManagementFactory.getThreadMXBean();
-        EvenWheel x = new EvenWheel();
-        callAll(x, 0);
+        callAll(new EvenWheel(), 0);
+        EvenWheel[] wheels = new EvenWheel[20];
+        for (int i = 0; i < wheels.length; i++) {
+            wheels[i] = new EvenWheel();
+        }
         long before = machine.getCurrentThreadAllocatedBytes();
-        EvenWheel other = new EvenWheel();
+        wheels[0] = new EvenWheel();
         long behind = machine.getCurrentThreadAllocatedBytes();
         CHECK.that("one object takes " + (behind - before) + " bytes", behind - before < MOST_OF_ONE);
         before = machine.getCurrentThreadAllocatedBytes();
-        for (int i = 0; i < 100; i++) {
-            callAll(other, i);
+        for (int i = 0; i < 5 * wheels.length; i++) {
+            callAll(wheels[i % wheels.length], i);
         }
         behind = machine.getCurrentThreadAllocatedBytes();
         CHECK.that("calls take " + (behind - before) + " bytes", behind - before < SLACK);

@@ -3,6 +3,7 @@ import java.util.Random;
 /** Runs of calls, the same ones each time, on EvenWheel and on PlainWheel: both answer the same, and are the same behind each. */
 public final class SameAsPlainTest {
     private static final int RUNS = 600;
+    // those that an object is used for: what else the runs want to know, PlainWheel is asked
     private static final int CALLS = 512;
     private static final int[] SIZES = {6, 10, 12, 20, 30};
     private static final int[] ODD = {-1, 0, 1, 7, 31, 37, 61, 901, Integer.MIN_VALUE, Integer.MAX_VALUE};
@@ -88,9 +89,9 @@ public final class SameAsPlainTest {
         } else if (which < 28) {
             same(seed, i, "step()", x.step(), y.step());
         } else if (which < 31) {
-            int p = number(0, Math.max(1, x.told(7)));
-            int c = x.told(2);
-            p = random.nextBoolean() ? p : x.inside(c, 0);
+            int p = number(0, Math.max(1, y.told(7)));
+            int c = y.told(2);
+            p = random.nextBoolean() ? p : y.inside(c, 0);
             same(seed, i, "leave(" + p + ")", x.leave(p), y.leave(p));
         } else if (which < 33) {
             int k = number(0, 5);
@@ -118,7 +119,7 @@ public final class SameAsPlainTest {
 
     private void callToLook(int seed, int i, int which) {
         int c = number(0, n - 1);
-        int p = number(0, Math.max(0, x.told(7) - 1));
+        int p = number(0, Math.max(0, y.told(7) - 1));
         int k = number(0, 6);
         switch (which % 12) {
             case 0: same(seed, i, "arm(" + c + ")", x.arm(c), y.arm(c)); break;
@@ -162,7 +163,7 @@ public final class SameAsPlainTest {
         boolean back = random.nextBoolean();
         for (int i = 0; i < n; i++) {
             int c = (from + (back ? n - i : i)) % n;
-            if (x.load(c) > 0 && random.nextInt(20) > 0) {
+            if (y.load(c) > 0 && random.nextInt(20) > 0) {
                 figures = figures * 30 + c;
             }
         }
@@ -202,7 +203,7 @@ public final class SameAsPlainTest {
     }
 
     private void callToGuess(int seed, int i, int c) {
-        int load = Math.max(0, x.load(c));
+        int load = Math.max(0, y.load(c));
         int low = number(0, load);
         int high = number(load, 900);
         same(seed, i, "guess(" + c + ", " + low + ", " + high + ")", x.guess(c, low, high), y.guess(c, low, high));
@@ -212,7 +213,7 @@ public final class SameAsPlainTest {
     private void callToRead(int seed, int i, int r) {
         int miss = number(0, random.nextBoolean() ? 300 : 20000);
         int off = random.nextInt(5) == 0 ? 40000 : Math.max(0, Math.min(miss, 100000));
-        int v = Math.max(-2000001, x.lean(r)) + random.nextInt(2 * off + 1) - off;
+        int v = Math.max(-2000001, y.lean(r)) + random.nextInt(2 * off + 1) - off;
         same(seed, i, "read(" + r + ", " + v + ", " + miss + ")", x.read(r, v, miss), y.read(r, v, miss));
     }
 }

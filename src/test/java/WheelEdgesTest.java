@@ -32,7 +32,17 @@ public final class WheelEdgesTest {
         stepAndWhy(edges);
         stop(edges);
         seen(edges);
+        calls(edges);
         edges.end(1, 15);
+    }
+
+    private static void calls(Edges edges) {
+        edges.whatItIs("An object is used for at most 512 calls after it has been made", "the 512th is still due", w -> {
+            for (int i = 1; i <= 511; i++) {
+                w.is(i % 6, "step");
+            }
+            w.is(511, "told", 6);
+        });
     }
 
     private static void eachSize(Tried w, IntConsumer test) {
@@ -298,11 +308,14 @@ public final class WheelEdgesTest {
             w.steps(7);
             w.is(3, "told", 1);
         });
-        edges.terms("WORK is L without its sign by 100, rounded down", "99 is 0: nothing grows, and nothing cools", w -> {
+        edges.terms("WORK is L without its sign by 100, rounded down", "L -1 is 0: nothing grows, and nothing cools", w -> {
             // 23 times 87 is one more than 40 times 50: LEAN at turn 10 is -1
             w.lade(12, 23, 0, 0, 0, 0, 0, 0, 40);
+            w.ask("rule", 2, 0);
             w.steps(9);
             long warmth = w.ask("told", 1);
+            w.that("WARMTH " + warmth + " at turn 9", warmth > 20);
+            w.ask("rule", 2, 20);
             w.is(-1, "lean", 10);
             w.is(10, "step");
             w.is(warmth, "told", 1);
@@ -663,11 +676,21 @@ public final class WheelEdgesTest {
             w.is(0, "told", 5);
             w.is(0, "told", 7);
             w.is(-101, "party", 0, 0);
-            w.is(0, "come", 1, 50, 50, 50, 0);
-            w.is(0, "party", 0, 4);
-            w.is(0, "party", 0, 5);
-            w.is(100, "party", 0, 3);
-            w.is(-101, "party", 1, 0);
+        });
+        edges.promise(2, "PARTIES are numbered from 0 again", "nothing is left of those who had these numbers", w -> {
+            w.busy();
+            w.is(1, "party", 0, 4);
+            w.is(1, "party", 3, 5);
+            w.is(3, "party", 5, 2);
+            w.is(10, "build", 10);
+            for (int p = 0; p < 8; p++) {
+                w.is(p, "come", 1, 20 + p, 150, 150, 0);
+                int[] due = {1, 20 + p, 0, 100, 0, 0};
+                for (int what = 0; what <= 5; what++) {
+                    w.is(due[what], "party", p, what);
+                }
+            }
+            w.is(-101, "party", 8, 0);
         });
         edges.promise(2, "TURN, WARMTH 0", "and STEPS too, as told(6) says", w -> {
             w.busy();
@@ -687,8 +710,14 @@ public final class WheelEdgesTest {
             w.ask("build", 6);
             w.is(0, "fit", 5, 0);
             w.is(900, "fit", 5, 1);
+            w.is(0, "up", 0, 1);
             w.is(0, "tear");
             w.is(0, "forget");
+            w.is(1, "note", 1, 1);
+            w.is(0, "up", 1, 0);
+            w.is(1, "read", 0, 156600, 0);
+            w.is(900, "fit", 1, 0);
+            w.is(0, "fit", 5, 1);
             w.ask("build", 30);
             w.is(0, "fit", 29, 0);
             w.is(900, "fit", 29, 1);

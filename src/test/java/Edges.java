@@ -1,7 +1,9 @@
 import java.io.IOException;
 import java.nio.file.Files;
 import java.nio.file.Path;
+import java.util.HashMap;
 import java.util.HashSet;
+import java.util.Map;
 import java.util.Set;
 import java.util.function.Consumer;
 import java.util.regex.Matcher;
@@ -13,6 +15,8 @@ import java.util.regex.Pattern;
  */
 final class Edges {
     private static final Path DOCUMENT = Path.of("../shared/DOC.md");
+    // of all that ran in this machine, by heading: SentencesTest looks what of the document none of them is named by
+    private static final Map<String, Set<String>> NAMED = new HashMap<>();
 
     private final Check check;
     private final String document;
@@ -24,7 +28,8 @@ final class Edges {
         document = documentText();
     }
 
-    private static String documentText() {
+    /** The document; nothing, if it is not there. */
+    static String documentText() {
         try {
             return Files.readString(DOCUMENT);
         } catch (IOException unread) {
@@ -44,6 +49,11 @@ final class Edges {
         run("Terms", sentence, edge, test);
     }
 
+    /** A test of a line that stands under 'The public face'. */
+    void face(String line, String edge, Consumer<Tried> test) {
+        run("The public face", line, edge, test);
+    }
+
     /** A test of a sentence that stands under 'What it is'. */
     void whatItIs(String sentence, String edge, Consumer<Tried> test) {
         run("What it is", sentence, edge, test);
@@ -51,16 +61,23 @@ final class Edges {
 
     private void run(String heading, String sentence, String edge, Consumer<Tried> test) {
         String name = heading + ", '" + sentence + "' (" + edge + ")";
+        NAMED.computeIfAbsent(heading, none -> new HashSet<>()).add(sentence);
         check.that(name + ": the name of another test", names.add(name));
-        check.that(name + ": not in the document", document.isEmpty() || section(heading).contains(sentence));
+        check.that(name + ": not in the document", document.isEmpty() || section(document, heading).contains(sentence));
         Tried tried = new Tried(check, name);
         test.accept(tried);
         check.that(name + ": looks at no answer", tried.looksAtAnswers());
     }
 
-    private String section(String heading) {
+    /** What stands in the document under a heading, in one line. */
+    static String section(String document, String heading) {
         Matcher found = Pattern.compile("(?ms)^## " + heading + "\\b(.*?)(?=^## |\\z)").matcher(document);
         return found.find() ? found.group(1).replaceAll("\\s+", " ") : "";
+    }
+
+    /** The sentences under a heading that tests are named by. */
+    static Set<String> named(String heading) {
+        return NAMED.getOrDefault(heading, Set.of());
     }
 
     /** Ends the test; each promise from the first to the last must have had one. */

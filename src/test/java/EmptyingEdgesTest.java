@@ -3,6 +3,9 @@ public final class EmptyingEdgesTest {
     private static final int LOW = Integer.MIN_VALUE;
     private static final int HIGH = Integer.MAX_VALUE;
     private static final int[] SIX = {0, 10, 20, 30, 40, 50, 60};
+    /** Cabins of a wheel, the turn, and an order of three of them. */
+    private static final int[][] EMPTIED = {{6, 0, 0, 2, 5}, {6, 3, 5, 2, 0}, {10, 9, 1, 4, 8}, {12, 7, 8, 1, 4}, {20, 1, 0, 19, 10},
+        {20, 19, 1, 2, 3}, {30, 29, 29, 0, 15}};
 
     public static void main(String[] args) {
         Edges edges = new Edges("EmptyingEdgesTest");
@@ -24,6 +27,9 @@ public final class EmptyingEdgesTest {
         rollIsNoStop(edges);
         letOut(edges);
         stranded(edges);
+        reallyEmptied(edges);
+        anotherOrder(edges);
+        rollsAsTheLeansSay(edges);
         edges.end(24, 29);
     }
 
@@ -164,7 +170,7 @@ public final class EmptyingEdgesTest {
     }
 
     private static void bestOfLikeOnes(Edges edges) {
-        edges.terms("the one whose first CABIN has the least number", "0 first or 1 first: as much, and as far", w -> {
+        edges.terms("of like ones the one whose first CABIN has the least number", "0 first or 1 first: as much, and as far", w -> {
             w.lade(6, 40, 60, 0, 0, 50);
             w.is(4350, "cost", 30 + 4);
             w.is(4350, "cost", 900 + 4);
@@ -727,5 +733,110 @@ public final class EmptyingEdgesTest {
             w.is(stay, "told", 4);
             w.is(stay, "stranded");
         });
+    }
+
+    // ---- whole sentences, beside their edges
+
+    private static void reallyEmptied(Edges edges) {
+        String sentence = "EMPTYING by an ORDER of all CABINS with a LOAD (6 at most): each is brought to THE DOOR by STEPS onward"
+            + " (none, if it is there), and emptied whole. COST: the greatest LEAN without its sign at any TURN that it comes to"
+            + " (0 without).";
+        for (int[] row : EMPTIED) {
+            int n = row[0];
+            edges.terms(sentence, "done by step() and leave(): n " + n + ", TURN " + row[1] + ", " + row[2] + ", " + row[3]
+                + ", " + row[4], w -> {
+                    int[] loads = new int[n];
+                    loads[row[2]] = 40;
+                    loads[row[3]] = 90;
+                    loads[row[4]] = 70;
+                    w.lade(n, loads);
+                    w.steps(row[1]);
+                    w.ask("rule", 1, 10000);
+                    long told = w.ask("cost", (row[2] * 30 + row[3]) * 30 + row[4]);
+                    long least = w.ask("order", 0);
+                    long greatest = 0;
+                    for (int i = 2; i <= 4; i++) {
+                        while (w.ask("told", 2) != row[i]) {
+                            w.that("a STEP is done", w.ask("step") >= 0);
+                            greatest = Math.max(greatest, Math.abs(w.ask("lean", (int) w.ask("told", 0))));
+                        }
+                        w.is(1, "leave", (int) w.ask("inside", row[i], 0));
+                    }
+                    w.that("cost() told " + told + ", it was " + greatest, told == greatest);
+                    w.that("order() told no more: " + least, least <= greatest);
+                });
+        }
+    }
+
+    private static void anotherOrder(Edges edges) {
+        edges.promise(26, "COST of another ORDER, told by its CABINS as figures of base 30, the first one highest: as many as have"
+            + " a LOAD", "each of six orders of three cabins, none like another", w -> {
+                w.lade(12, 0, 70, 0, 0, 20, 0, 0, 0, 90);
+                // kept by the cabins still up: arms and loads as they stand in the document
+                int[] loads = {70, 20, 90};
+                int[] cabins = {1, 4, 8};
+                int[][] orders = {{0, 1, 2}, {0, 2, 1}, {1, 0, 2}, {1, 2, 0}, {2, 0, 1}, {2, 1, 0}};
+                int[] arms = {0, 50, 87, 100, 87, 50, 0, -50, -87, -100, -87, -50};
+                for (int[] order : orders) {
+                    boolean[] gone = new boolean[3];
+                    int turn = 0;
+                    int due = 0;
+                    for (int k : order) {
+                        while ((cabins[k] + turn) % 12 != 0) {
+                            turn++;
+                            int lean = 0;
+                            for (int i = 0; i < 3; i++) {
+                                lean += gone[i] ? 0 : loads[i] * arms[(cabins[i] + turn) % 12];
+                            }
+                            due = Math.max(due, Math.abs(lean));
+                        }
+                        gone[k] = true;
+                    }
+                    w.refuses(due, "cost", (cabins[order[0]] * 30 + cabins[order[1]]) * 30 + cabins[order[2]]);
+                }
+            });
+    }
+
+    private static void rollsAsTheLeansSay(Edges edges) {
+        String sentence = "ROLLING (no drive, no brake): at a TURN with LEAN L: L 0: it RESTS. L above 0: it goes to TURN r less 1,"
+            + " if LEAN there is not below 0, else it RESTS; L below 0: to r and 1, if LEAN there is not above 0, else it RESTS.";
+        int[][] all = {{10}, {40, 0, 0, 30}, {10, 80, 0, 0, 0, 90}, {23, 0, 0, 0, 0, 0, 0, 0, 40}, {23, 0, 0, 0, 0, 0, 40},
+            {0, 60, 0, 0, 0, 0, 0, 60}, {5, 6, 7, 8, 9, 10, 11, 12, 13, 14, 15, 16}};
+        for (int i = 0; i < all.length; i++) {
+            int[] loads = all[i];
+            edges.terms(sentence, "from each turn, by the leans as they are told: wheel " + i, w -> {
+                w.lade(12, loads);
+                w.ask("drive", 0);
+                w.ask("rule", 0, 0);
+                int[] leans = new int[12];
+                for (int r = 0; r < 12; r++) {
+                    leans[r] = (int) w.ask("lean", r);
+                }
+                for (int from = 0; from < 12; from++) {
+                    w.ask("drive", 1);
+                    w.ask("rule", 0, 1000000);
+                    w.steps((12 + from - (int) w.ask("told", 0)) % 12);
+                    w.ask("drive", 0);
+                    w.ask("rule", 0, 0);
+                    int way = wayToRest(leans, from);
+                    w.is(way, "roll");
+                    w.is((12 + from + way) % 12, "told", 0);
+                }
+            });
+        }
+    }
+
+    private static int wayToRest(int[] leans, int from) {
+        int n = leans.length;
+        int way = 0;
+        while (Math.abs(way) <= n) {
+            int lean = leans[(2 * n + from + way) % n];
+            int ahead = leans[(2 * n + from + way + (lean > 0 ? -1 : 1)) % n];
+            if (lean == 0 || lean > 0 && ahead < 0 || lean < 0 && ahead > 0) {
+                return way;
+            }
+            way += lean > 0 ? -1 : 1;
+        }
+        return way;
     }
 }

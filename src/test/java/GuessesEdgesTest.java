@@ -20,6 +20,8 @@ public final class GuessesEdgesTest {
         fitRefusedTwice(edges);
         breaks(edges);
         agree(edges);
+        guessesStand(edges);
+        narrowedLoadByLoad(edges);
         edges.end(34, 39);
     }
 
@@ -541,5 +543,76 @@ public final class GuessesEdgesTest {
             w.is(1, "read", 0, 2000000, 0);
             w.refuses(-1, "agree");
         });
+    }
+
+    // ---- whole sentences, beside their edges
+
+    private static void guessesStand(Edges edges) {
+        edges.terms("GUESSES: LOAD of each CABIN from low to high (0 to 900; 0 to 900 at first)",
+            "each for itself, whatever the LOADS are", w -> {
+                w.ask("build", 12);
+                w.seat(3, 100);
+                for (int c = 0; c < 12; c++) {
+                    w.is(1, "guess", c, 10 * c, 900 - c);
+                }
+                for (int c = 0; c < 12; c++) {
+                    fits(w, c, 10 * c, 900 - c);
+                }
+                w.is(300, "load", 0);
+                w.is(1, "agree");
+            });
+    }
+
+    private static void narrowedLoadByLoad(Edges edges) {
+        String sentence = "NARROWED: READING by READING, for each of these CABIN 0, 1, .., by what the others may be now: low and"
+            + " high become those of all whole LOADS between them by which, with some (not only whole) LOADS of the others between"
+            + " theirs, LEAN at that TURN is as read; if there is no such, nothing is left.";
+        int[][] misses = {{0, 0}, {30, 0}, {0, 120}, {75, 75}};
+        for (int[] miss : misses) {
+            edges.terms(sentence, "two readings of two cabins, load by load, MISS " + miss[0] + " and " + miss[1], w -> {
+                w.ask("build", 12);
+                for (int c = 0; c < 12; c++) {
+                    w.is(1, "guess", c, 0, 0);
+                }
+                w.is(1, "guess", 1, 2, 9);
+                w.is(1, "guess", 8, 1, 7);
+                // arms of 1 and 8: 50 and -87 at TURN 0, 87 and -100 at TURN 1
+                for (int v = -600; v <= 400; v += 77) {
+                    int[] due = {2, 9, 1, 7};
+                    boolean some = narrow(due, 50, -87, v, miss[0]) && narrow(due, 87, -100, v + 200, miss[1]);
+                    w.is(1, "read", 0, v, miss[0]);
+                    w.is(2, "read", 1, v + 200, miss[1]);
+                    fits(w, 1, some ? due[0] : -1, some ? due[1] : -1);
+                    fits(w, 8, some ? due[2] : -1, some ? due[3] : -1);
+                    w.is(some ? 0 : -1, "fit", 11, 0);
+                    w.is(2, "forget");
+                }
+            });
+        }
+    }
+
+    /** Two cabins, low and high of the one and then of the other, by each whole load of theirs; false: nothing is left. */
+    private static boolean narrow(int[] lowHigh, int armOfOne, int armOfOther, int v, int miss) {
+        for (int one = 0; one < 4; one += 2) {
+            int other = 2 - one;
+            int arm = one == 0 ? armOfOne : armOfOther;
+            int armBeside = one == 0 ? armOfOther : armOfOne;
+            int low = -1;
+            int high = -1;
+            for (int load = lowHigh[one]; load <= lowHigh[one + 1]; load++) {
+                int atLow = load * arm + lowHigh[other] * armBeside;
+                int atHigh = load * arm + lowHigh[other + 1] * armBeside;
+                if (Math.max(atLow, atHigh) >= v - miss && Math.min(atLow, atHigh) <= v + miss) {
+                    low = low < 0 ? load : low;
+                    high = load;
+                }
+            }
+            if (low < 0) {
+                return false;
+            }
+            lowHigh[one] = low;
+            lowHigh[one + 1] = high;
+        }
+        return true;
     }
 }

@@ -21,6 +21,11 @@ public final class LineEdgesTest {
         leave(edges);
         party(edges);
         partyIsWhere(edges);
+        wishes(edges);
+        mayBoardIfAll(edges);
+        nextOfThree(edges);
+        eachMayLeaveByItself(edges);
+        tellsOfAParty(edges);
         edges.end(16, 23);
     }
 
@@ -40,7 +45,7 @@ public final class LineEdgesTest {
             w.refuses(-104, "come", 1, 10, 10, 10, 0);
             w.is(-1, "waits", 30);
         });
-        edges.terms("200 at most in all, numbered as they come", "the 200th has number 199, the 201st does not come", w -> {
+        edges.terms("PARTIES (200 at most in all, numbered as they come", "the 200th is 199, the 201st does not come", w -> {
             for (int p = 0; p < 199; p++) {
                 w.is(p, "come", 1, 10, 10, 10, 0);
                 w.is(p, "tire", 0);
@@ -734,5 +739,148 @@ public final class LineEdgesTest {
                 w.is(0, "party", 0, 3);
             }
         });
+    }
+
+    // ---- whole sentences, beside their edges
+
+    private static void wishes(Edges edges) {
+        edges.terms("are of 1 to 6 PERSONS, and may wish to be ALONE (no other PARTY in the CABIN), or to SEE (the top)",
+            "neither, the one, the other, both: of one person, and of six", w -> {
+                for (int i = 0; i < 8; i++) {
+                    w.is(i, "come", i % 2 == 0 ? 1 : 6, 10, 10, 10, i / 2);
+                    w.is(i / 2, "party", i, 2);
+                }
+                for (int i = 0; i < 8; i++) {
+                    w.is(1, "may", 0);
+                    w.is(i, "next");
+                    w.is(i / 2 % 2, "cabin", (int) w.ask("told", 2), 2);
+                    w.is(i % 2 == 0 ? 1 : 6, "leave", i);
+                }
+            });
+        edges.terms("or to SEE (the top)", "who wishes it may get off without, and who does not sees too", w -> {
+            w.seat(1, 10, 2);
+            w.is(1, "leave", 0);
+            w.is(0, "party", 0, 4);
+            w.seat(1, 10, 0);
+            w.steps(3);
+            w.is(1, "party", 1, 4);
+        });
+    }
+
+    private static void mayBoardIfAll(Edges edges) {
+        String sentence = "A PARTY MAY BOARD now, if THE CABIN at THE DOOR has room for all of it, and is empty, or nobody in it,"
+            + " nor the PARTY, is ALONE; and with it GREATEST LEAN would be at most BOUND";
+        // persons and wishes in the cabin, persons and wishes of the party, BOUND by 87, and whether it MAY
+        int[][] rows = {{3, 0, 3, 0, 60, 1}, {3, 0, 4, 0, 70, 0}, {3, 1, 3, 0, 60, 0}, {3, 0, 3, 1, 60, 0}, {3, 0, 3, 0, 59, 0},
+            {3, 2, 3, 2, 60, 1}, {3, 2, 3, 3, 60, 0}, {0, 0, 6, 1, 60, 1}, {0, 0, 6, 3, 59, 0}, {4, 1, 3, 1, 10, 0}};
+        for (int[] row : rows) {
+            String edge = row[0] + " in it with wishes " + row[1] + ", " + row[2] + " with wishes " + row[3] + ", BOUND " + row[4];
+            edges.terms(sentence, edge, w -> {
+                if (row[0] > 0) {
+                    w.seat(row[0], 10, row[1]);
+                }
+                w.ask("rule", 0, row[4] * 87);
+                w.ask("come", row[2], 10, 10, 10, row[3]);
+                w.is(row[5], "may", 0);
+                w.is(row[5] == 1 ? row[0] > 0 ? 1 : 0 : -1, "next");
+            });
+        }
+        edges.terms(sentence, "the one at THE DOOR alone: now it MAY, a STEP on it MAY not", w -> {
+            w.steps(1);
+            w.seat(6, 10, 1);
+            w.steps(5);
+            w.ask("come", 1, 10, 10, 10, 0);
+            w.is(1, "may", 0);
+            w.steps(1);
+            w.is(0, "may", 0);
+            w.steps(1);
+            w.is(1, "may", 0);
+        });
+    }
+
+    private static void nextOfThree(Edges edges) {
+        String sentence = "THE NEXT: going along THE LINE from its front, the first that MAY BOARD; but it ends at one that was"
+            + " passed over PATIENCE times (1 to 20; 5 at first) and MAY not";
+        for (int first = 0; first < 3; first++) {
+            int due = first;
+            edges.terms(sentence, "number " + due + " of three is the first that MAY", w -> {
+                w.seat(5, 10);
+                for (int i = 0; i < 3; i++) {
+                    w.ask("come", i < due ? 2 : 1, 10, 10, 10, 0);
+                }
+                w.is(1 + due, "next");
+                for (int i = 0; i < 3; i++) {
+                    w.is(i < due ? 1 : 0, "party", 1 + i, 5);
+                }
+            });
+        }
+        edges.terms(sentence, "it ends at the second of three, though the first was not passed over so often", w -> {
+            w.ask("rule", 3, 2);
+            w.seat(5, 10);
+            w.ask("come", 2, 10, 10, 10, 0);
+            // 2 and 3 board past 1, who has been passed over twice then
+            for (int p = 2; p <= 3; p++) {
+                w.ask("come", 1, 10, 10, 10, 0);
+                w.is(p, "next");
+                w.is(1, "leave", p);
+            }
+            w.is(2, "party", 1, 5);
+            w.ask("come", 1, 10, 10, 10, 0);
+            w.is(1, "may", 1);
+            w.refuses(-1, "next");
+            w.is(1, "tire", 0);
+            w.is(4, "next");
+        });
+    }
+
+    private static void eachMayLeaveByItself(Edges edges) {
+        edges.terms("A PARTY in THE CABIN at THE DOOR MAY LEAVE, if GREATEST LEAN is at most BOUND then, or less than it is now",
+            "of three in it, each by what it weighs", w -> {
+                // 100 at the top; 80, 20 and 130 at the door: greatest is 130 times 87
+                w.seat(1, 100);
+                w.steps(3);
+                w.seat(1, 80);
+                w.seat(1, 20);
+                w.seat(1, 130);
+                w.ask("rule", 0, 0);
+                w.is(130 * 87, "greatest");
+                w.is(1, "leave", 3);
+                w.is(0, "greatest");
+                w.refuses(-103, "leave", 1);
+                w.refuses(-103, "leave", 2);
+                w.ask("rule", 0, 20 * 87);
+                w.refuses(-103, "leave", 1);
+                w.is(1, "leave", 2);
+                w.is(20 * 87, "greatest");
+                w.ask("rule", 0, 100 * 87);
+                w.is(1, "leave", 1);
+            });
+    }
+
+    private static void tellsOfAParty(Edges edges) {
+        edges.promise(23, "Of a PARTY: what = 0 PERSONS, 1 what they WEIGH together, 2 its wishes, 3 where it is",
+            "none like another, as they wait, ride and are gone", w -> {
+                int[][] due = {{4, 270, 2}, {2, 111, 1}, {6, 66, 0}};
+                w.ask("come", 4, 90, 80, 10, 2);
+                w.ask("come", 2, 100, 11, 50, 1);
+                w.ask("come", 6, 5, 8, 20, 0);
+                for (int p = 0; p < 3; p++) {
+                    for (int what = 0; what < 3; what++) {
+                        w.is(due[p][what], "party", p, what);
+                    }
+                    w.is(100, "party", p, 3);
+                }
+                w.is(0, "next");
+                w.steps(1);
+                w.is(1, "next");
+                w.is(2, "leave", 1);
+                int[] places = {0, 101, 100};
+                for (int p = 0; p < 3; p++) {
+                    for (int what = 0; what < 3; what++) {
+                        w.is(due[p][what], "party", p, what);
+                    }
+                    w.is(places[p], "party", p, 3);
+                }
+            });
     }
 }

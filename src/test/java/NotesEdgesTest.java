@@ -14,6 +14,8 @@ public final class NotesEdgesTest {
         up(edges);
         begins(edges);
         tear(edges);
+        eachNumberUp(edges);
+        upFromEachBegin(edges);
         edges.end(30, 33);
     }
 
@@ -308,5 +310,50 @@ public final class NotesEdgesTest {
             }
             w.refuses(-104, "note", 1, 0);
         });
+    }
+
+    // ---- whole sentences, beside their edges
+
+    /** The NOTES that leave 0 to 33 from nobody: 5 came in, nobody looked, 3 went out. */
+    private static void gap(Tried w) {
+        w.ask("tear");
+        w.ask("note", 0, 5);
+        w.ask("note", 2, 0);
+        w.ask("note", 1, 3);
+    }
+
+    private static void eachNumberUp(Edges edges) {
+        edges.terms("UP by them, from a number at the begin (0 to 6 n): all numbers that may be up at the end, if behind each NOTE"
+            + " 0 to 6 n are up, and where nobody looked any number from 36 less to 36 more",
+            "each between the least and the greatest too, and none beyond", w -> {
+                gap(w);
+                ups(w, 0, 0, 33);
+                for (int number = 0; number <= 36; number++) {
+                    // so many go out and 36 come in: that may only be, if just so many were up
+                    gap(w);
+                    w.ask("note", 1, number);
+                    w.ask("note", 0, 36);
+                    w.ask("note", 1, 36 - number);
+                    w.is(number <= 33 ? number : -1, "up", 0, 0);
+                    w.is(number <= 33 ? number : -1, "up", 0, 1);
+                }
+            });
+    }
+
+    private static void upFromEachBegin(Edges edges) {
+        edges.promise(31, "UP by NOTES, from a number at the begin: the least (side 0), the greatest (1)",
+            "from each of 0 to 36, through in, out and a gap", w -> {
+                w.is(1, "note", 0, 20);
+                w.is(2, "note", 1, 12);
+                for (int begin = 0; begin <= 36; begin++) {
+                    int due = begin <= 16 ? begin + 8 : -1;
+                    ups(w, begin, due, due);
+                }
+                w.is(3, "note", 2, 0);
+                w.is(4, "note", 1, 30);
+                for (int begin = 0; begin <= 36; begin++) {
+                    ups(w, begin, begin <= 16 ? 0 : -1, begin <= 16 ? 6 : -1);
+                }
+            });
     }
 }

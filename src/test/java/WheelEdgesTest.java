@@ -33,6 +33,13 @@ public final class WheelEdgesTest {
         stop(edges);
         seen(edges);
         calls(edges);
+        likeSteps(edges);
+        armsMirrored(edges);
+        notDone(edges);
+        buildTellsN(edges);
+        toldAtEachTurn(edges);
+        driveAlone(edges);
+        stopIsSteps(edges);
         edges.end(1, 15);
     }
 
@@ -105,8 +112,8 @@ public final class WheelEdgesTest {
             w.is(0, "told", 3);
             w.is(1, "party", 0, 4);
         }));
-        edges.terms("CABIN c is at PLACE (c and r) modulo n", "the last cabin goes past n less 1 to 0",
-            w -> eachSize(w, n -> {
+        edges.terms("With THE TURN r (0 to n less 1; 0 at first) CABIN c is at PLACE (c and r) modulo n",
+            "the last cabin goes past n less 1 to 0", w -> eachSize(w, n -> {
                 w.is(n - 1, "cabin", n - 1, 3);
                 w.is(n - 2, "cabin", n - 2, 3);
                 w.is(1, "step");
@@ -1134,5 +1141,139 @@ public final class WheelEdgesTest {
             w.seat(1, 10);
             w.is(0, "party", 2, 4);
         });
+    }
+
+    // ---- whole sentences, beside their edges
+
+    private static void likeSteps(Edges edges) {
+        String sentence = "THE WHEEL has CABINS 0 to n less 1 (n 6, 10, 12, 20 or 30; 6 at first) at like steps round the rim,"
+            + " which has PLACES 0 to n less 1";
+        for (int n : SIZES) {
+            edges.terms(sentence, "each place has one cabin, and each STEP takes each one place on, n " + n, w -> {
+                w.ask("build", n);
+                for (int r : new int[] {0, 1, 2, n / 2, n - 1}) {
+                    w.steps(r - (int) w.ask("told", 0));
+                    for (int c = 0; c < n; c++) {
+                        w.is((c + r) % n, "cabin", c, 3);
+                    }
+                }
+            });
+        }
+        edges.terms(sentence, "the same load leans the same, one place on a turn later", w -> eachSize(w, n -> {
+            w.seat(1, 10);
+            for (int r = 0; r < n; r++) {
+                w.is(10 * w.ask("arm", r), "lean", r);
+            }
+        }));
+    }
+
+    private static void armsMirrored(Edges edges) {
+        edges.terms("ARM of a PLACE p: with q 60 p by n, and u how far q is from the nearest of 0, 30, 60 (0 to 15)",
+            "as far from the door as from the top is alike, and the other half is below 0", w -> eachSize(w, n -> {
+                for (int p = 1; p < n / 2; p++) {
+                    long arm = w.ask("arm", p);
+                    w.is(arm, "arm", n / 2 - p);
+                    w.is(-arm, "arm", n - p);
+                    w.that("arm(" + p + ") is above 0", arm > 0);
+                }
+            }));
+        edges.promise(3, "ARM of a PLACE", "whatever THE TURN is, and whoever is up", w -> {
+            int[] due = {0, 87, 87, 0, -87, -87};
+            w.seat(6, 100);
+            for (int r = 0; r < 6; r++) {
+                for (int p = 0; p < 6; p++) {
+                    w.is(due[p], "arm", p);
+                }
+                w.steps(1);
+            }
+        });
+    }
+
+    private static void notDone(Edges edges) {
+        edges.terms("It is not done (WHY): 1 L without its sign is above BOUND; 2 WARMTH would be above HOT", "nothing is begun",
+            w -> {
+                w.seat(1, 100);
+                w.steps(4);
+                w.is(87, "told", 1);
+                w.ask("rule", 1, 173);
+                w.is(2, "why");
+                w.refuses(-103, "step");
+                w.ask("rule", 0, 8699);
+                w.is(1, "why");
+                w.refuses(-103, "step");
+                w.is(4, "told", 0);
+                w.is(87, "told", 1);
+                w.is(4, "told", 6);
+                w.ask("rule", 0, 8700);
+                w.ask("rule", 1, 174);
+                w.is(5, "step");
+            });
+    }
+
+    private static void buildTellsN(Edges edges) {
+        edges.promise(2, "GUESSES as at first (BOUND and so on stay): n", "also where it had n before, and where nothing goes on",
+            w -> {
+                w.busy();
+                w.ask("rule", 0, 0);
+                eachSize(w, n -> w.is(n, "build", n));
+                w.is(0, "rule", 0, 0);
+            });
+    }
+
+    private static void toldAtEachTurn(Edges edges) {
+        edges.promise(4, "1 WARMTH, 2 the CABIN at THE DOOR, 3 that at the top", "at each turn of each wheel", w -> eachSize(w, n -> {
+            w.seat(1, 100);
+            long warmth = 0;
+            for (int r = 1; r <= n; r++) {
+                long lean = w.ask("lean", r % n);
+                warmth = lean < 0 ? warmth - lean / 100 : Math.max(0, warmth - 20);
+                w.steps(1);
+                w.is(warmth, "told", 1);
+            }
+            w.is(0, "told", 2);
+            w.is(n / 2, "told", 3);
+        }));
+        edges.promise(4, "2 the CABIN at THE DOOR, 3 that at the top", "they are at these places", w -> eachSize(w, n -> {
+            for (int r = 0; r < 8; r++) {
+                w.is(0, "cabin", (int) w.ask("told", 2), 3);
+                w.is(n / 2, "cabin", (int) w.ask("told", 3), 3);
+                w.steps(1);
+            }
+        }));
+    }
+
+    private static void driveAlone(Edges edges) {
+        edges.promise(6, "THE DRIVE is there, or gone: 1 if it was there, else 0", "nothing else is other by it", w -> {
+            w.busy();
+            w.ask("rule", 0, 60000);
+            long digest = w.ask("digest");
+            w.is(0, "drive", 1);
+            w.that("digest() tells it", w.ask("digest") != digest);
+            w.is(1, "drive", 0);
+            w.is(digest, "digest");
+            w.is(0, "drive", 0);
+            w.is(digest, "digest");
+        });
+    }
+
+    private static void stopIsSteps(Edges edges) {
+        edges.promise(15, "A STOP: up to m STEPS (0 to 60) go, one behind the other, until one is not done: how many",
+            "as so many single ones", w -> {
+                Tried other = w.another();
+                w.lade(10, 30, 0, 40, 0, 0, 0, 77);
+                other.lade(10, 30, 0, 40, 0, 0, 0, 77);
+                for (int hot = 100; hot <= 250; hot += 25) {
+                    w.ask("rule", 1, hot);
+                    other.ask("rule", 1, hot);
+                    int done = 0;
+                    while (done < 9 && other.ask("step") != -103) {
+                        done++;
+                    }
+                    // who is at the top sees by it
+                    other.ask("stop", 0);
+                    w.is(done, "stop", 9);
+                    w.is(other.ask("digest"), "digest");
+                }
+            });
     }
 }
